@@ -36,6 +36,7 @@ public final class PromiseTest {
         measureEdges();
         meanCompactness();
         improve();
+        improveLong();
         possible();
         plans();
         counted();
@@ -197,6 +198,7 @@ public final class PromiseTest {
         Check.same("3: border away", 3, extend(planner, "b0-2:0"));
         Check.same("3: border away", 0, planner.border(0, 2));
         Check.same("3: border away", 0, planner.unit(0, 5));
+        Check.same("3: border away", 0, planner.unit(2, 5));
         DistrictPlanner most = mapped("u1/1;u1/1;u1/1;u1/1;u1/1;u1/1;u1/1;u1/1;u1/1;u1/1;u1/1");
         Check.same("3: twelve units", 12, extend(most, "u1/1"));
         Check.same("3: border of the last", 12, extend(most, "b10-11:1;o11:2"));
@@ -744,6 +746,35 @@ public final class PromiseTest {
         Check.same("19: plan", "ABB", plan(cut));
     }
 
+    /** A map that was searched for: by compactness, 22 steps lead from its plan to the last one. */
+    private static void improveLong() {
+        String[] units = {"20/76", "5/31", "94/23", "33/68", "12/41", "5/16", "12/58", "52/57", "87/67", "2/43",
+            "8/8", "53/24"};
+        String outer = "853720959140";
+        // In row u the lengths of the borders with the units below u.
+        String[] lengths = {"", "0", "30", "439", "0603", "65831", "065294", "7402370", "10018750", "208669675",
+            "1509381605", "15086000707"};
+        DistrictPlanner planner = empty();
+        for (int u = 0; u < units.length; u++) {
+            extend(planner, "u" + units[u] + ";o" + u + ":" + outer.charAt(u));
+            for (int v = 0; v < u; v++) {
+                if (lengths[u].charAt(v) != '0') {
+                    extend(planner, "b" + u + "-" + v + ":" + lengths[u].charAt(v));
+                }
+            }
+        }
+        planner.setDistricts(3);
+        planner.setTolerance(99);
+        Check.same("19: a long way", 0, read(planner, "BAACBCACABAB"));
+        Check.same("19: at most twenty steps", 20, planner.improve(0));
+        Check.same("19: the rest of the way", 2, planner.improve(0));
+        Check.same("19: the end of the way", 0, planner.improve(0));
+        planner.undo();
+        planner.undo();
+        planner.undo();
+        Check.same("19: undone at once", "BAACBCACABAB", plan(planner));
+    }
+
     private static DistrictPlanner complete(String units) {
         DistrictPlanner planner = mapped(units);
         for (int u = 0; u < planner.count(0); u++) {
@@ -797,6 +828,8 @@ public final class PromiseTest {
         Check.fails("21: behind clearMap", STATE, planner::plans);
         extend(planner, "u1/1;u1/1");
         Check.same("21: more districts than units", 0, planner.plans());
+        Check.same("21: one unit", 0, mapped("u1/1").plans());
+        Check.same("22: one unit", 0, mapped("u1/1").counted());
         DistrictPlanner nine = complete("u1/1;u1/1;u1/1;u1/1;u1/1;u1/1;u1/1;u1/1;u1/1");
         nine.setDistricts(4);
         nine.setTolerance(99);

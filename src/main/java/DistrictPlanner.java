@@ -762,10 +762,6 @@ public final class DistrictPlanner {
             }
             return false;
         }
-
-        boolean canBeDistrict(int set) {
-            return set != 0 && isBalanced(set) && !splitsCores(set) && isContiguous(set);
-        }
     }
 
     /** Goes through a text; where it stops before a text ends is the fault position. */
@@ -1218,7 +1214,8 @@ public final class DistrictPlanner {
             }
             int all = Math.min(world.allUnits(), isPossible.length - 1);
             for (int set = 0; set <= all; set++) {
-                isPossible[set] = world.canBeDistrict(set);
+                isPossible[set] = set != 0 && world.isBalanced(set) && !world.splitsCores(set)
+                        && world.isContiguous(set);
             }
             hasSets = true;
         }

@@ -1154,7 +1154,7 @@ public final class DistrictPlanner {
         private final boolean[] isPossible = new boolean[1 << MOST_LISTED_UNITS];
         private final int[] sets = new int[MOST_DISTRICTS];
         private final Plan plan = new Plan();
-        private final Fraction least = new Fraction();
+        private final Fraction best = new Fraction();
         private final Fraction tried = new Fraction();
         private int size = 0;
         private boolean hasSets = false;
@@ -1199,8 +1199,8 @@ public final class DistrictPlanner {
             for (int number = 0; number < size; number++) {
                 copyPlan(number, world, plan);
                 Scale.weigh(world, plan, measure, tried);
-                if (number == 0 || Scale.isBetter(measure, tried, least)) {
-                    least.copyFrom(tried);
+                if (number == 0 || Scale.isBetter(measure, tried, best)) {
+                    best.copyFrom(tried);
                     first = number;
                 }
             }

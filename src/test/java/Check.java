@@ -6,15 +6,21 @@ final class Check {
 
     private static int checks = 0;
     private static int wrong = 0;
+    private static String topic = "";
 
     private Check() {
+    }
+
+    /** What the next checks are about: it is told in front of those that fail. */
+    static void about(String newTopic) {
+        topic = newTopic + ": ";
     }
 
     static void same(String call, Object due, Object got) {
         checks++;
         if (!due.equals(got)) {
             wrong++;
-            System.out.println(call + " answered " + got + ", due is " + due);
+            System.out.println(topic + call + " answered " + got + ", due is " + due);
         }
     }
 

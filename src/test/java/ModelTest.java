@@ -123,7 +123,7 @@ public final class ModelTest {
     }
 
     private String statement() {
-        int units = Math.max(1, planner.count(0));
+        int units = Math.max(1, model.count(0));
         return switch (any(8)) {
             case 0 -> "u" + any(12) + "/" + any(12) + (any(2) == 0 ? "@" + any(5) + (any(2) == 0 ? "!" : "") : "");
             case 1, 2 -> "o" + any(units + any(2)) + ":" + any(10);
@@ -151,8 +151,8 @@ public final class ModelTest {
 
     /** A plan whose districts grow from single units, so that it is often lawful. */
     private String plan() {
-        int units = planner.count(0);
-        int districts = planner.count(4);
+        int units = model.count(0);
+        int districts = model.count(4);
         int[] places = new int[units];
         Arrays.fill(places, -1);
         for (int d = 0; d < districts && units > 0; d++) {
@@ -161,7 +161,7 @@ public final class ModelTest {
         for (int round = 0; round < 300 && units > 0; round++) {
             int u = any(units);
             int v = any(units);
-            if (places[u] < 0 && places[v] >= 0 && planner.border(u, v) > 0) {
+            if (places[u] < 0 && places[v] >= 0 && model.border(u, v) > 0) {
                 places[u] = places[v];
             }
         }
@@ -181,7 +181,7 @@ public final class ModelTest {
     // ---- calls
 
     private void step() {
-        boolean isPlanWanted = planner.count(6) == 0 && any(3) == 0;
+        boolean isPlanWanted = model.count(6) == 0 && any(3) == 0;
         int kind = isPlanWanted ? 6 : any(100);
         if (kind < 6) {
             changeMap();
@@ -226,10 +226,10 @@ public final class ModelTest {
     }
 
     private void changePlan() {
-        int units = planner.count(0);
+        int units = model.count(0);
         int unit = near(units);
         int other = near(units);
-        int district = near(planner.count(4));
+        int district = near(model.count(4));
         int measure = near(4);
         switch (any(12)) {
             case 0, 1, 2 -> same("move(" + unit + ", " + district + ")", () -> planner.move(unit, district),
@@ -253,7 +253,7 @@ public final class ModelTest {
     }
 
     private void lettersAreSame() {
-        for (int u = 0; u <= planner.count(0); u++) {
+        for (int u = 0; u <= model.count(0); u++) {
             int unit = u;
             same("letter(" + u + ")", () -> planner.letter(unit), () -> model.letter(unit));
         }
@@ -265,7 +265,7 @@ public final class ModelTest {
     }
 
     private void lookAtMap() {
-        int units = planner.count(0);
+        int units = model.count(0);
         int unit = near(units);
         int other = near(units);
         int what = near(8);
@@ -281,10 +281,10 @@ public final class ModelTest {
     }
 
     private void lookAtPlan() {
-        int district = near(planner.count(4));
+        int district = near(model.count(4));
         int what = near(7);
         int measure = near(4);
-        int unit = near(planner.count(0));
+        int unit = near(model.count(0));
         boolean flag = random.nextBoolean();
         switch (any(8)) {
             case 0, 1, 2 -> same("district(" + district + ", " + what + ")", () -> planner.district(district, what),
@@ -298,7 +298,7 @@ public final class ModelTest {
     }
 
     private void lookAtAllPlans() {
-        int units = planner.count(0);
+        int units = model.count(0);
         int plans = units > 0 && units < 10 ? model.plans() : 3;
         int plan = near(plans);
         int unit = near(units);

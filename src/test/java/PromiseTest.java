@@ -1,17 +1,5 @@
-import java.util.NoSuchElementException;
-
 /** Each promise of the document by hand: ordinary inputs, the edges that it names, wrong inputs. */
-public final class PromiseTest {
-    private static final Class<IllegalStateException> STATE = IllegalStateException.class;
-    private static final Class<IllegalArgumentException> ARGUMENT = IllegalArgumentException.class;
-    private static final Class<IndexOutOfBoundsException> INDEX = IndexOutOfBoundsException.class;
-    private static final Class<UnsupportedOperationException> UNSUPPORTED = UnsupportedOperationException.class;
-    private static final Class<NoSuchElementException> ELEMENT = NoSuchElementException.class;
-
-    // A square of four units round a ring 0-1-3-2-0; 0 and 3 are cores of the communities 0 and 1.
-    private static final String RING = "u5/4@0!;u5/4@0;u5/2@1;u5/2@1!;b0-1:2;b1-3:3;b2-3:2;b0-2:1;o0:3";
-    private static final String PATH6 = "u1/1;u1/1;u1/1;u1/1;u1/1;u1/1;b0-1:1;b1-2:1;b2-3:1;b3-4:1;b4-5:1";
-
+public final class PromiseTest extends Bench {
     public static void main(String[] args) {
         newObject();
         feed();
@@ -36,7 +24,6 @@ public final class PromiseTest {
         measureEdges();
         meanCompactness();
         improve();
-        improveLong();
         possible();
         plans();
         counted();
@@ -52,100 +39,8 @@ public final class PromiseTest {
         Check.end("PromiseTest");
     }
 
-    private static DistrictPlanner empty() {
-        return new DistrictPlanner();
-    }
-
-    private static DistrictPlanner mapped(String text) {
-        DistrictPlanner planner = empty();
-        extend(planner, text);
-        return planner;
-    }
-
-    private static DistrictPlanner ring(String plan) {
-        DistrictPlanner planner = mapped(RING);
-        planner.setTolerance(99);
-        Check.same("readPlan " + plan, 0, read(planner, plan));
-        return planner;
-    }
-
-    private static void type(DistrictPlanner planner, String text) {
-        for (int i = 0; i < text.length(); i++) {
-            planner.feed(text.charAt(i));
-        }
-    }
-
-    private static int extend(DistrictPlanner planner, String text) {
-        // Longer texts go in parts: a text has at most 80 characters.
-        int from = 0;
-        while (text.length() - from > 80) {
-            int cut = text.lastIndexOf(';', from + 80);
-            type(planner, text.substring(from, cut));
-            planner.extend();
-            from = cut + 1;
-        }
-        type(planner, text.substring(from));
-        return planner.extend();
-    }
-
-    private static int read(DistrictPlanner planner, String plan) {
-        type(planner, plan);
-        return planner.readPlan();
-    }
-
-    private static String plan(DistrictPlanner planner) {
-        StringBuilder letters = new StringBuilder();
-        for (int u = 0; u < planner.count(0); u++) {
-            letters.append(planner.count(6) == 1 ? planner.letter(u) : '-');
-        }
-        return letters.toString();
-    }
-
-    /** All that can be seen without changing anything. */
-    private static String look(DistrictPlanner planner) {
-        StringBuilder seen = new StringBuilder();
-        for (int what = 0; what < 10; what++) {
-            seen.append(planner.count(what)).append(' ');
-        }
-        for (int u = 0; u < planner.count(0); u++) {
-            for (int what = 0; what < 8; what++) {
-                seen.append(planner.unit(u, what)).append(',');
-            }
-            for (int v = 0; v < planner.count(0); v++) {
-                seen.append(planner.border(u, v));
-            }
-            seen.append(' ');
-        }
-        seen.append(Check.outcome(planner::impossible)).append(' ');
-        seen.append(Check.outcome(() -> planner.refusal(false))).append(' ');
-        seen.append(Check.outcome(() -> planner.refusal(true))).append(' ');
-        for (int row = 0; row < 3; row++) {
-            for (int i = 0; i < 5; i++) {
-                int number = row;
-                int element = i;
-                seen.append(Check.outcome(() -> planner.bits(number, element))).append(' ');
-            }
-        }
-        return seen.toString();
-    }
-
-    private static int undoable(DistrictPlanner planner) {
-        int undone = 0;
-        while (!Check.outcome(planner::undo).equals("IllegalStateException")) {
-            undone++;
-        }
-        return undone;
-    }
-
-    private static void failsUnchanged(String call, Class<? extends RuntimeException> due,
-            DistrictPlanner planner, Check.Call run) {
-        String before = look(planner);
-        Check.fails(call, due, run);
-        Check.same("the state behind " + call, before, look(planner));
-    }
-
     private static void newObject() {
-        DistrictPlanner planner = empty();
+        Planner planner = empty();
         int[] due = {0, 0, 0, 0, 2, 10, 0, 0, 0, 0};
         for (int what = 0; what < due.length; what++) {
             Check.same("1: count " + what, due[what], planner.count(what));
@@ -155,13 +50,13 @@ public final class PromiseTest {
         Check.fails("1: undo", STATE, planner::undo);
         Check.fails("1: restoreSnapshot", STATE, planner::restoreSnapshot);
         Check.fails("1: bits", ELEMENT, () -> planner.bits(2, 0));
-        DistrictPlanner other = mapped("u1/1");
+        Planner other = mapped("u1/1");
         Check.same("1: objects of their own", 0, planner.count(0));
         Check.same("1: objects of their own", 1, other.count(0));
     }
 
     private static void feed() {
-        DistrictPlanner planner = empty();
+        Planner planner = empty();
         for (int i = 1; i <= 80; i++) {
             Check.same("2: feed", i, planner.feed((char) (i * 800)));
         }
@@ -169,44 +64,44 @@ public final class PromiseTest {
         Check.same("2: length", 80, planner.count(9));
         Check.same("2: extend", -100, planner.extend());
         Check.same("2: feed behind extend", 1, planner.feed('x'));
-        DistrictPlanner full = empty();
+        Planner full = empty();
         StringBuilder text = new StringBuilder("u11/1");
         for (int i = 0; i < 15; i++) {
             text.append(";o0:").append(i % 10);
         }
         Check.same("2: 80 characters", 80, text.length());
-        type(full, text.toString());
+        full.type(text.toString());
         Check.same("2: a text of 80 characters", 1, full.extend());
         Check.same("2: a text of 80 characters", 4, full.unit(0, 4));
     }
 
     private static void extend() {
-        DistrictPlanner planner = empty();
-        Check.same("3: extend", 2, extend(planner, "u07/99@3!;u1/01@0"));
+        Planner planner = empty();
+        Check.same("3: extend", 2, planner.extend("u07/99@3!;u1/01@0"));
         Check.same("3: input", 0, planner.count(9));
         Check.same("3: population", 7, planner.unit(0, 0));
         Check.same("3: area", 99, planner.unit(0, 1));
         Check.same("3: community", 3, planner.unit(0, 2));
         Check.same("3: core", 1, planner.unit(0, 3));
         Check.same("3: no core", 0, planner.unit(1, 3));
-        Check.same("3: extend again", 3, extend(planner, "u2/3;b00-02:9;o2:9"));
+        Check.same("3: extend again", 3, planner.extend("u2/3;b00-02:9;o2:9"));
         Check.same("3: border", 9, planner.border(2, 0));
         Check.same("3: outer length", 9, planner.unit(2, 4));
-        Check.same("3: new length", 3, extend(planner, "b2-0:4;o2:0"));
+        Check.same("3: new length", 3, planner.extend("b2-0:4;o2:0"));
         Check.same("3: new length", 4, planner.border(0, 2));
         Check.same("3: new outer length", 0, planner.unit(2, 4));
-        Check.same("3: border away", 3, extend(planner, "b0-2:0"));
+        Check.same("3: border away", 3, planner.extend("b0-2:0"));
         Check.same("3: border away", 0, planner.border(0, 2));
         Check.same("3: border away", 0, planner.unit(0, 5));
         Check.same("3: border away", 0, planner.unit(2, 5));
-        DistrictPlanner most = mapped("u1/1;u1/1;u1/1;u1/1;u1/1;u1/1;u1/1;u1/1;u1/1;u1/1;u1/1");
-        Check.same("3: twelve units", 12, extend(most, "u1/1"));
-        Check.same("3: border of the last", 12, extend(most, "b10-11:1;o11:2"));
-        DistrictPlanner with = ring("AABB");
-        Check.same("3: no plan behind it", 4, extend(with, "o0:3"));
+        Planner most = mapped("u1/1;u1/1;u1/1;u1/1;u1/1;u1/1;u1/1;u1/1;u1/1;u1/1;u1/1");
+        Check.same("3: twelve units", 12, most.extend("u1/1"));
+        Check.same("3: border of the last", 12, most.extend("b10-11:1;o11:2"));
+        Planner with = ring("AABB");
+        Check.same("3: no plan behind it", 4, with.extend("o0:3"));
         Check.same("3: no plan behind it", 0, with.count(6));
         Check.same("3: undo", 3, with.undo());
-        Check.same("3: undo", "AABB", plan(with));
+        Check.same("3: undo", "AABB", with.plan());
     }
 
     private static void extendFaults() {
@@ -219,22 +114,22 @@ public final class PromiseTest {
             {"o0-1", 2}, {"o000:1", 3}, {"u1/1@1;o0:1x", 11}, {";u1/1", 0}, {"u0/1;x", 5},
         };
         for (Object[] fault : faults) {
-            DistrictPlanner planner = mapped("u3/3");
+            Planner planner = mapped("u3/3");
             planner.setTolerance(99);
             int due = (Integer) fault[1] < 0 ? 2 : -100 - (Integer) fault[1];
-            Check.same("3: " + fault[0], due, extend(planner, (String) fault[0]));
+            Check.same("3: " + fault[0], due, planner.extend((String) fault[0]));
             Check.same("3: input behind " + fault[0], 0, planner.count(9));
             if (due < 0) {
                 Check.same("3: map behind " + fault[0], 1, planner.count(0));
-                Check.same("3: changes behind " + fault[0], 2, undoable(planner));
+                Check.same("3: changes behind " + fault[0], 2, planner.undoable());
             }
         }
-        DistrictPlanner planner = ring("AABB");
-        Check.same("3: a fault keeps the plan", -100, extend(planner, "?"));
-        Check.same("3: a fault keeps the plan", "AABB", plan(planner));
+        Planner planner = ring("AABB");
+        Check.same("3: a fault keeps the plan", -100, planner.extend("?"));
+        Check.same("3: a fault keeps the plan", "AABB", planner.plan());
         char[] odd = {0, 0xff10, 0x660, 200};
         for (char sign : odd) {
-            type(planner, "u");
+            planner.type("u");
             planner.feed(sign);
             Check.same("3: sign " + (int) sign, -101, planner.extend());
         }
@@ -247,75 +142,75 @@ public final class PromiseTest {
             {"u1/1;b0-1:1;b0-1:0;b1-0:0;u1/1", 3}, {"b99-98:1", 0}, {"o0:1;o1:2;o3:1", 2},
         };
         for (Object[] text : texts) {
-            DistrictPlanner planner = mapped("u3/3;u3/3");
+            Planner planner = mapped("u3/3;u3/3");
             planner.setTolerance(99);
-            read(planner, "AB");
-            Check.fails("3: " + text[0], UNSUPPORTED, () -> extend(planner, (String) text[0]));
+            planner.read("AB");
+            Check.fails("3: " + text[0], UNSUPPORTED, () -> planner.extend((String) text[0]));
             Check.same("3: number in " + text[0], text[1], planner.impossible());
             Check.same("3: input behind " + text[0], 0, planner.count(9));
-            Check.same("3: plan behind " + text[0], "AB", plan(planner));
+            Check.same("3: plan behind " + text[0], "AB", planner.plan());
             Check.same("3: map behind " + text[0], "2 0 0 0", planner.count(0) + " " + planner.count(1) + " "
                     + planner.unit(0, 4) + " " + planner.unit(1, 4));
-            Check.same("3: changes behind " + text[0], 3, undoable(planner));
+            Check.same("3: changes behind " + text[0], 3, planner.undoable());
         }
-        DistrictPlanner most = mapped("u1/1;u1/1;u1/1;u1/1;u1/1;u1/1;u1/1;u1/1;u1/1;u1/1;u1/1");
-        Check.fails("3: a thirteenth unit", UNSUPPORTED, () -> extend(most, "o0:5;u2/2;u3/3"));
+        Planner most = mapped("u1/1;u1/1;u1/1;u1/1;u1/1;u1/1;u1/1;u1/1;u1/1;u1/1;u1/1");
+        Check.fails("3: a thirteenth unit", UNSUPPORTED, () -> most.extend("o0:5;u2/2;u3/3"));
         Check.same("3: a thirteenth unit", 2, most.impossible());
         Check.same("3: none is carried out", 11, most.count(0));
         Check.same("3: none is carried out", 0, most.unit(0, 4));
-        Check.same("3: the twelfth", 12, extend(most, "u2/2"));
+        Check.same("3: the twelfth", 12, most.extend("u2/2"));
         Check.same("3: nothing is left of the refused one", 2, most.unit(11, 0));
     }
 
     private static void impossible() {
-        DistrictPlanner planner = empty();
+        Planner planner = empty();
         Check.fails("4: impossible", ELEMENT, planner::impossible);
-        extend(planner, "?");
+        planner.extend("?");
         Check.fails("4: behind a fault", ELEMENT, planner::impossible);
-        Check.fails("4: extend", UNSUPPORTED, () -> extend(planner, "u1/1;o3:1"));
+        Check.fails("4: extend", UNSUPPORTED, () -> planner.extend("u1/1;o3:1"));
         Check.same("4: impossible", 1, planner.impossible());
-        extend(planner, "u1/1");
-        extend(planner, "?");
+        planner.extend("u1/1");
+        planner.extend("?");
         planner.clearMap();
         planner.undo();
         planner.undo();
         Check.same("4: it stays", 1, planner.impossible());
         planner.saveSnapshot();
-        Check.fails("4: extend", UNSUPPORTED, () -> extend(planner, "o3:1;o2:1"));
+        Check.fails("4: extend", UNSUPPORTED, () -> planner.extend("o3:1;o2:1"));
         Check.same("4: another one", 0, planner.impossible());
         planner.restoreSnapshot();
         Check.same("4: behind restoreSnapshot", 0, planner.impossible());
     }
 
     private static void clearMap() {
-        DistrictPlanner planner = empty();
+        Planner planner = empty();
         Check.same("5: clearMap", 0, planner.clearMap());
-        extend(planner, RING);
+        planner.extend(RING);
         planner.setDistricts(3);
         planner.setTolerance(77);
-        type(planner, "uv");
+        planner.type("uv");
         Check.same("5: clearMap", 4, planner.clearMap());
         int[] due = {0, 0, 0, 0, 3, 77, 0, 0, 0, 2};
         for (int what = 0; what < due.length; what++) {
             Check.same("5: count " + what, due[what], planner.count(what));
         }
         planner.extend();
-        Check.same("5: extend", 4, extend(planner, "u1/1;u1/1;u1/1;u1/1"));
+        Check.same("5: extend", 4, planner.extend("u1/1;u1/1;u1/1;u1/1"));
         for (int u = 0; u < 4; u++) {
             Check.same("5: nothing is left", "0 0 0 -1", planner.unit(u, 3) + " " + planner.unit(u, 4) + " "
                     + planner.unit(u, 5) + " " + planner.unit(u, 2));
         }
         Check.same("5: no borders", 0, planner.count(1));
-        DistrictPlanner with = ring("AABB");
+        Planner with = ring("AABB");
         with.clearMap();
         Check.same("5: no plan", 0, with.count(6));
         Check.same("5: undo", 3, with.undo());
-        Check.same("5: undo", "AABB", plan(with));
+        Check.same("5: undo", "AABB", with.plan());
         Check.same("5: undo", 3, with.border(3, 1));
     }
 
     private static void unit() {
-        DistrictPlanner planner = mapped(RING + ";u9/8");
+        Planner planner = mapped(RING + ";u9/8");
         int[][] due = {
             {5, 4, 0, 1, 3, 6, -1, 0}, {5, 4, 0, 0, 0, 9, -1, 0}, {5, 2, 1, 0, 0, 9, -1, 0},
             {5, 2, 1, 1, 0, 6, -1, 0}, {9, 8, -1, 0, 0, 0, -1, 0},
@@ -329,8 +224,8 @@ public final class PromiseTest {
         failsUnchanged("6: unit -1", INDEX, planner, () -> planner.unit(-1, 99));
         failsUnchanged("6: what 8", ARGUMENT, planner, () -> planner.unit(0, 8));
         failsUnchanged("6: what -1", ARGUMENT, planner, () -> planner.unit(4, -1));
-        DistrictPlanner with = mapped(PATH6);
-        read(with, "AAABBB");
+        Planner with = mapped(PATH6);
+        with.read("AAABBB");
         int[] edges = {0, 0, 1, 1, 0, 0};
         for (int u = 0; u < 6; u++) {
             Check.same("6: district of " + u, u / 3, with.unit(u, 6));
@@ -341,7 +236,7 @@ public final class PromiseTest {
     }
 
     private static void border() {
-        DistrictPlanner planner = mapped(RING);
+        Planner planner = mapped(RING);
         Check.same("7: border", 3, planner.border(1, 3));
         Check.same("7: border", 3, planner.border(3, 1));
         Check.same("7: none", 0, planner.border(0, 3));
@@ -354,10 +249,10 @@ public final class PromiseTest {
     }
 
     private static void count() {
-        DistrictPlanner planner = mapped(RING + ";u9/8;u1/1@3;u1/2@3;b4-6:1");
+        Planner planner = mapped(RING + ";u9/8;u1/1@3;u1/2@3;b4-6:1");
         planner.setDistricts(4);
         planner.setTolerance(0);
-        type(planner, "abc");
+        planner.type("abc");
         int[] due = {7, 5, 31, 23, 4, 0, 0, 3, 3, 3};
         for (int what = 0; what < due.length; what++) {
             Check.same("8: count " + what, due[what], planner.count(what));
@@ -367,17 +262,17 @@ public final class PromiseTest {
         Check.same("8: present plan", 1, ring("AABB").count(6));
         Check.same("8: one part", 1, mapped(PATH6).count(7));
         Check.same("8: parts", 2, mapped("u1/1;u1/1;u1/1;u1/1;b3-0:1;b2-1:1").count(7));
-        DistrictPlanner away = mapped(PATH6 + ";b1-2:0");
+        Planner away = mapped(PATH6 + ";b1-2:0");
         Check.same("8: borders", 4, away.count(1));
         Check.same("8: parts", 2, away.count(7));
     }
 
     private static void setDistricts() {
-        DistrictPlanner planner = ring("AABB");
+        Planner planner = ring("AABB");
         failsUnchanged("9: 1", ARGUMENT, planner, () -> planner.setDistricts(1));
         failsUnchanged("9: 5", ARGUMENT, planner, () -> planner.setDistricts(5));
         failsUnchanged("9: extreme", ARGUMENT, planner, () -> planner.setDistricts(Integer.MIN_VALUE));
-        Check.same("9: the plan is there", "AABB", plan(planner));
+        Check.same("9: the plan is there", "AABB", planner.plan());
         Check.same("9: the same number", 2, planner.setDistricts(2));
         Check.same("9: no plan", 0, planner.count(6));
         Check.same("9: setDistricts", 2, planner.setDistricts(4));
@@ -387,11 +282,11 @@ public final class PromiseTest {
         Check.same("9: undo", 4, planner.count(4));
         Check.same("9: undo", 4, planner.undo());
         Check.same("9: undo", 3, planner.undo());
-        Check.same("9: undo", "AABB", plan(planner));
+        Check.same("9: undo", "AABB", planner.plan());
     }
 
     private static void setTolerance() {
-        DistrictPlanner planner = ring("AABB");
+        Planner planner = ring("AABB");
         failsUnchanged("10: -1", ARGUMENT, planner, () -> planner.setTolerance(-1));
         failsUnchanged("10: 100", ARGUMENT, planner, () -> planner.setTolerance(100));
         Check.same("10: the same one", 99, planner.setTolerance(99));
@@ -403,41 +298,41 @@ public final class PromiseTest {
         Check.same("10: undo", 0, planner.count(5));
         planner.undo();
         planner.undo();
-        Check.same("10: undo", "AABB", plan(planner));
+        Check.same("10: undo", "AABB", planner.plan());
         Check.same("10: undo", 99, planner.count(5));
     }
 
     private static void readPlan() {
-        DistrictPlanner nothing = empty();
-        type(nothing, "A");
+        Planner nothing = empty();
+        nothing.type("A");
         Check.fails("11: empty map", STATE, nothing::readPlan);
         Check.same("11: input in any case", 0, nothing.count(9));
-        DistrictPlanner planner = mapped(PATH6);
-        Check.same("11: lawful", 0, read(planner, "aAabBB"));
-        Check.same("11: plan", "AAABBB", plan(planner));
+        Planner planner = mapped(PATH6);
+        Check.same("11: lawful", 0, planner.read("aAabBB"));
+        Check.same("11: plan", "AAABBB", planner.plan());
         Check.same("11: input", 0, planner.count(9));
         Object[][] faults = {
             {"", 0}, {"AAABB", 5}, {"AAABBBB", 6}, {"AAACBB", 3}, {"@AABBB", 0}, {"`aabbb", 0}, {"AAcBBBBBB", 2},
             {"AAABB?", 5}, {"AAABBB?", 6}, {"0", 0}, {"AAABBBBBB", 6}, {"A1", 1},
         };
         for (Object[] fault : faults) {
-            Check.same("11: " + fault[0], -100 - (Integer) fault[1], read(planner, (String) fault[0]));
+            Check.same("11: " + fault[0], -100 - (Integer) fault[1], planner.read((String) fault[0]));
             Check.same("11: input behind " + fault[0], 0, planner.count(9));
-            Check.same("11: plan behind " + fault[0], "AAABBB", plan(planner));
+            Check.same("11: plan behind " + fault[0], "AAABBB", planner.plan());
             Check.fails("11: nothing is kept", ELEMENT, () -> planner.refusal(false));
         }
-        Check.same("11: changes", 2, undoable(planner));
-        DistrictPlanner four = mapped("u1/1;u1/1;u1/1;u1/1");
+        Check.same("11: changes", 2, planner.undoable());
+        Planner four = mapped("u1/1;u1/1;u1/1;u1/1");
         four.setDistricts(4);
-        Check.same("11: four districts", 0, read(four, "dCbA"));
-        Check.same("11: four districts", "DCBA", plan(four));
-        Check.same("11: E", -103, read(four, "abce"));
+        Check.same("11: four districts", 0, four.read("dCbA"));
+        Check.same("11: four districts", "DCBA", four.plan());
+        Check.same("11: E", -103, four.read("abce"));
         four.setDistricts(3);
-        Check.same("11: D", -103, read(four, "abcD"));
+        Check.same("11: D", -103, four.read("abcD"));
     }
 
     private static void readPlanReasons() {
-        DistrictPlanner planner = mapped(PATH6 + ";u1/1@2!;u1/1@2!;b5-6:1;b6-7:1");
+        Planner planner = mapped(PATH6 + ";u1/1@2!;u1/1@2!;b5-6:1;b6-7:1");
         planner.setDistricts(3);
         planner.setTolerance(50);
         Object[][] plans = {
@@ -447,7 +342,7 @@ public final class PromiseTest {
         };
         int refusals = 0;
         for (Object[] line : plans) {
-            Check.same("11: " + line[0], line[1], read(planner, (String) line[0]));
+            Check.same("11: " + line[0], line[1], planner.read((String) line[0]));
             if (!line[1].equals(0)) {
                 refusals++;
                 Check.same("11: reason of " + line[0], line[1], planner.refusal(false));
@@ -456,33 +351,33 @@ public final class PromiseTest {
             }
         }
         Check.same("11: refusals", 10, refusals);
-        Check.same("11: plan", "AAABBCCC", plan(planner));
-        read(planner, "AAAAAAAA");
-        Check.same("11: a refused plan changes nothing", "AAABBCCC", plan(planner));
+        Check.same("11: plan", "AAABBCCC", planner.plan());
+        planner.read("AAAAAAAA");
+        Check.same("11: a refused plan changes nothing", "AAABBCCC", planner.plan());
         tolerated(0, "u3/1;u3/1;b0-1:1", 0);
         tolerated(0, "u3/1;u2/1;b0-1:1", 4);
         tolerated(20, "u3/1;u2/1;b0-1:1", 0);
         tolerated(19, "u3/1;u2/1;b0-1:1", 4);
         tolerated(98, "u99/1;u1/1", 0);
         tolerated(97, "u99/1;u1/1", 4);
-        DistrictPlanner lowest = mapped("u1/1@3!;u1/1@1!;u1/1@3!;u1/1@1!;b0-1:1;b2-3:1;b1-3:1");
-        Check.same("11: two communities", 3, read(lowest, "AABB"));
+        Planner lowest = mapped("u1/1@3!;u1/1@1!;u1/1@3!;u1/1@1!;b0-1:1;b2-3:1;b1-3:1");
+        Check.same("11: two communities", 3, lowest.read("AABB"));
         Check.same("11: the lowest community", 1, lowest.refusal(true));
     }
 
     private static void tolerated(int tolerance, String map, int due) {
-        DistrictPlanner planner = mapped(map);
+        Planner planner = mapped(map);
         planner.setTolerance(tolerance);
-        Check.same("11: tolerance " + tolerance + " for " + map, due, read(planner, "AB"));
+        Check.same("11: tolerance " + tolerance + " for " + map, due, planner.read("AB"));
     }
 
     private static void move() {
-        DistrictPlanner planner = mapped(PATH6);
+        Planner planner = mapped(PATH6);
         Check.fails("12: no plan", STATE, () -> planner.move(0, 1));
         Check.fails("12: no unit before no plan", INDEX, () -> planner.move(6, 0));
         Check.fails("12: no district before no plan", INDEX, () -> planner.move(0, 2));
         planner.setTolerance(50);
-        read(planner, "AAABBB");
+        planner.read("AAABBB");
         failsUnchanged("12: unit -1", INDEX, planner, () -> planner.move(-1, 0));
         failsUnchanged("12: unit 6", INDEX, planner, () -> planner.move(6, 0));
         failsUnchanged("12: district -1", INDEX, planner, () -> planner.move(0, -1));
@@ -491,36 +386,36 @@ public final class PromiseTest {
         refused(planner, 0, 1, 5, 0);
         refused(planner, 5, 0, 5, 5);
         Check.same("12: move", 1, planner.move(3, 0));
-        Check.same("12: plan", "AAAABB", plan(planner));
+        Check.same("12: plan", "AAAABB", planner.plan());
         refused(planner, 4, 0, 4, 0);
         Check.same("12: undo", 3, planner.undo());
-        Check.same("12: plan", "AAABBB", plan(planner));
-        DistrictPlanner wide = mapped("u1/1@0!;u1/1@0!;u1/1@0!;u1/1;b0-1:1;b1-2:1;b2-3:1;b0-3:1");
+        Check.same("12: plan", "AAABBB", planner.plan());
+        Planner wide = mapped("u1/1@0!;u1/1@0!;u1/1@0!;u1/1;b0-1:1;b1-2:1;b2-3:1;b0-3:1");
         wide.setTolerance(99);
-        read(wide, "AAAB");
+        wide.read("AAAB");
         refused(wide, 3, 0, 1, 1);
         refused(wide, 2, 1, 3, 0);
-        DistrictPlanner torn = mapped("u1/1;u1/1;u1/1;u1/1;b0-1:1;b1-2:1;b1-3:1");
+        Planner torn = mapped("u1/1;u1/1;u1/1;u1/1;b0-1:1;b1-2:1;b1-3:1");
         torn.setTolerance(99);
-        read(torn, "AAAB");
+        torn.read("AAAB");
         refused(torn, 1, 1, 2, 0);
         Check.same("12: move back", 0, torn.count(9));
     }
 
-    private static void refused(DistrictPlanner planner, int unit, int district, int reason, int detail) {
-        String before = plan(planner);
+    private static void refused(Planner planner, int unit, int district, int reason, int detail) {
+        String before = planner.plan();
         Check.same("14: refuses " + unit + " " + district, reason, planner.refuses(unit, district));
         Check.fails("12: move " + unit + " " + district, UNSUPPORTED, () -> planner.move(unit, district));
         Check.same("12: reason of " + unit + " " + district, reason, planner.refusal(false));
         Check.same("12: detail of " + unit + " " + district, detail, planner.refusal(true));
-        Check.same("12: plan behind " + unit + " " + district, before, plan(planner));
+        Check.same("12: plan behind " + unit + " " + district, before, planner.plan());
     }
 
     private static void swap() {
-        DistrictPlanner planner = mapped(PATH6);
+        Planner planner = mapped(PATH6);
         Check.fails("13: no plan", STATE, () -> planner.swap(0, 1));
         Check.fails("13: no unit before no plan", INDEX, () -> planner.swap(0, 6));
-        read(planner, "AAABBB");
+        planner.read("AAABBB");
         failsUnchanged("13: unit 6", INDEX, planner, () -> planner.swap(0, 6));
         failsUnchanged("13: unit -1", INDEX, planner, () -> planner.swap(-1, 5));
         failsUnchanged("13: the same district", ARGUMENT, planner, () -> planner.swap(0, 2));
@@ -532,59 +427,59 @@ public final class PromiseTest {
         swapRefused(planner, 4, 2, 5, 4);
         // The only neighbor of 2 in B is 3, with which it is swapped: that counts, and 2 is cut off then.
         swapRefused(planner, 2, 3, 2, 0);
-        DistrictPlanner ring = ring("AABB");
+        Planner ring = ring("AABB");
         // The neighbors of 0 are 1 and 2, those of 2 are 0 and 3.
         swapRefused(ring, 0, 2, 2, 0);
         Check.same("13: across", 0, ring.swap(0, 3));
-        Check.same("13: across", "BABA", plan(ring));
+        Check.same("13: across", "BABA", ring.plan());
         ring.undo();
         Check.same("13: swap", 0, ring.swap(1, 2));
-        Check.same("13: plan", "ABAB", plan(ring));
+        Check.same("13: plan", "ABAB", ring.plan());
         Check.same("13: swap", 1, ring.swap(1, 2));
-        Check.same("13: plan", "AABB", plan(ring));
+        Check.same("13: plan", "AABB", ring.plan());
         Check.same("13: undo", 4, ring.undo());
-        Check.same("13: undo", "ABAB", plan(ring));
-        DistrictPlanner pair = mapped("u1/1;u1/1;b0-1:1");
-        read(pair, "AB");
+        Check.same("13: undo", "ABAB", ring.plan());
+        Planner pair = mapped("u1/1;u1/1;b0-1:1");
+        pair.read("AB");
         Check.same("13: a pair", 1, pair.swap(1, 0));
-        Check.same("13: a pair", "BA", plan(pair));
+        Check.same("13: a pair", "BA", pair.plan());
     }
 
-    private static void swapRefused(DistrictPlanner planner, int unit, int other, int reason, int detail) {
-        String before = plan(planner);
+    private static void swapRefused(Planner planner, int unit, int other, int reason, int detail) {
+        String before = planner.plan();
         Check.fails("13: swap " + unit + " " + other, UNSUPPORTED, () -> planner.swap(unit, other));
         Check.same("13: reason of " + unit + " " + other, reason, planner.refusal(false));
         Check.same("13: detail of " + unit + " " + other, detail, planner.refusal(true));
-        Check.same("13: plan behind " + unit + " " + other, before, plan(planner));
+        Check.same("13: plan behind " + unit + " " + other, before, planner.plan());
     }
 
     private static void refuses() {
-        DistrictPlanner planner = mapped(PATH6);
+        Planner planner = mapped(PATH6);
         Check.fails("14: no plan", STATE, () -> planner.refuses(0, 1));
         Check.fails("14: no unit before no plan", INDEX, () -> planner.refuses(6, 1));
         Check.fails("14: no district before no plan", INDEX, () -> planner.refuses(0, -1));
         planner.setTolerance(99);
-        read(planner, "AAAAAB");
+        planner.read("AAAAAB");
         failsUnchanged("14: unit 6", INDEX, planner, () -> planner.refuses(6, 0));
         failsUnchanged("14: unit -1", INDEX, planner, () -> planner.refuses(-1, 0));
         failsUnchanged("14: district 2", INDEX, planner, () -> planner.refuses(0, 2));
         failsUnchanged("14: its district", ARGUMENT, planner, () -> planner.refuses(5, 1));
-        String before = look(planner);
+        String before = planner.state();
         Check.same("14: not refused", 0, planner.refuses(4, 1));
         Check.same("14: no neighbor", 5, planner.refuses(0, 1));
         Check.same("14: no units", 1, planner.refuses(5, 0));
-        Check.same("14: nothing is kept", before, look(planner));
-        Check.same("14: nothing is changed", 3, undoable(planner));
+        Check.same("14: nothing is kept", before, planner.state());
+        Check.same("14: nothing is changed", 3, planner.undoable());
     }
 
     private static void refusal() {
-        DistrictPlanner planner = mapped(PATH6);
+        Planner planner = mapped(PATH6);
         Check.fails("15: none", ELEMENT, () -> planner.refusal(true));
-        read(planner, "AAAABB");
+        planner.read("AAAABB");
         Check.same("15: readPlan", 4, planner.refusal(false));
         Check.same("15: readPlan", 0, planner.refusal(true));
-        read(planner, "AAABBB");
-        read(planner, "?");
+        planner.read("AAABBB");
+        planner.read("?");
         Check.same("15: it stays", 4, planner.refusal(false));
         Check.fails("15: move", UNSUPPORTED, () -> planner.move(5, 0));
         Check.same("15: move", 5, planner.refusal(false));
@@ -606,7 +501,7 @@ public final class PromiseTest {
     }
 
     private static void district() {
-        DistrictPlanner planner = ring("AABB");
+        Planner planner = ring("AABB");
         int[][] due = {{2, 3, 10, 8, 7, 2, 1}, {2, 12, 10, 4, 4, 1, 1}};
         districts(planner, due);
         planner.swap(1, 2);
@@ -616,17 +511,17 @@ public final class PromiseTest {
         failsUnchanged("16: district -1", INDEX, planner, () -> planner.district(-1, 9));
         failsUnchanged("16: what 7", ARGUMENT, planner, () -> planner.district(0, 7));
         failsUnchanged("16: what -1", ARGUMENT, planner, () -> planner.district(1, -1));
-        DistrictPlanner path = mapped(PATH6 + ";o1:4;o5:9");
+        Planner path = mapped(PATH6 + ";o1:4;o5:9");
         path.setDistricts(3);
         Check.fails("16: no plan", STATE, () -> path.district(2, 6));
         Check.fails("16: what before no plan", ARGUMENT, () -> path.district(2, 7));
         Check.fails("16: district before no plan", INDEX, () -> path.district(3, 7));
-        read(path, "BBAACC");
+        path.read("BBAACC");
         int[][] three = {{2, 12, 2, 2, 2, 6, 0}, {2, 3, 2, 2, 5, 1, 0}, {2, 48, 2, 2, 10, 1, 0}};
         districts(path, three);
     }
 
-    private static void districts(DistrictPlanner planner, int[][] due) {
+    private static void districts(Planner planner, int[][] due) {
         for (int d = 0; d < due.length; d++) {
             for (int what = 0; what < due[d].length; what++) {
                 Check.same("16: district " + d + " " + what, due[d][what], planner.district(d, what));
@@ -634,12 +529,12 @@ public final class PromiseTest {
         }
     }
 
-    private static String fraction(DistrictPlanner planner, int measure) {
+    private static String fraction(Planner planner, int measure) {
         return planner.measure(measure, false) + "/" + planner.measure(measure, true);
     }
 
     private static void measure() {
-        DistrictPlanner planner = ring("AABB");
+        Planner planner = ring("AABB");
         Check.same("17: measure 0", "128/49", fraction(planner, 0));
         Check.same("17: measure 1", "4/1", fraction(planner, 1));
         Check.same("17: measure 2", "0/1", fraction(planner, 2));
@@ -649,169 +544,130 @@ public final class PromiseTest {
         Check.same("17: measure 2", "2/1", fraction(planner, 2));
         failsUnchanged("17: measure 4", ARGUMENT, planner, () -> planner.measure(4, false));
         failsUnchanged("17: measure -1", ARGUMENT, planner, () -> planner.measure(-1, true));
-        DistrictPlanner none = mapped(RING);
+        Planner none = mapped(RING);
         Check.fails("17: no plan", STATE, () -> none.measure(3, true));
         Check.fails("17: no measure before no plan", ARGUMENT, () -> none.measure(4, true));
     }
 
     private static void measureEdges() {
-        DistrictPlanner apart = mapped("u1/1;u1/1");
-        read(apart, "AB");
+        Planner apart = mapped("u1/1;u1/1");
+        apart.read("AB");
         Check.same("17: perimeter 0", "0/1", fraction(apart, 0));
-        extend(apart, "o1:2");
-        read(apart, "AB");
+        apart.extend("o1:2");
+        apart.read("AB");
         Check.same("17: one perimeter 0", "0/1", fraction(apart, 0));
-        read(apart, "BA");
+        apart.read("BA");
         Check.same("17: one perimeter 0", "0/1", fraction(apart, 0));
-        extend(apart, "o0:4");
-        read(apart, "BA");
+        apart.extend("o0:4");
+        apart.read("BA");
         Check.same("17: lowest terms", "1/1", fraction(apart, 0));
-        extend(apart, "o0:6");
-        read(apart, "AB");
+        apart.extend("o0:6");
+        apart.read("AB");
         Check.same("17: lowest terms", "4/9", fraction(apart, 0));
-        DistrictPlanner uneven = mapped("u6/1;u4/1;b0-1:3");
+        Planner uneven = mapped("u6/1;u4/1;b0-1:3");
         uneven.setTolerance(20);
-        read(uneven, "AB");
+        uneven.read("AB");
         Check.same("17: measure 3", "1/5", fraction(uneven, 3));
         Check.same("17: measure 1", "3/1", fraction(uneven, 1));
-        DistrictPlanner three = mapped("u6/1@1;u5/1@1;u4/1@0;u5/1@0;b2-3:1");
+        Planner three = mapped("u6/1@1;u5/1@1;u4/1@0;u5/1@0;b2-3:1");
         three.setDistricts(3);
         three.setTolerance(99);
-        read(three, "ABCC");
+        three.read("ABCC");
         Check.same("17: the greatest difference", "7/20", fraction(three, 3));
         Check.same("17: one split community", "1/1", fraction(three, 2));
         Check.same("17: no border between districts", "0/1", fraction(three, 1));
     }
 
     private static void meanCompactness() {
-        DistrictPlanner planner = ring("AABB");
+        Planner planner = ring("AABB");
         Check.same("18: ring", (128f / 49f + 4f) / 2f, planner.meanCompactness());
-        DistrictPlanner none = mapped(RING);
+        Planner none = mapped(RING);
         failsUnchanged("18: no plan", STATE, none, none::meanCompactness);
-        DistrictPlanner apart = mapped("u1/97;u1/98;u1/5;u1/99;o0:7;o1:9;o3:3");
+        Planner apart = mapped("u1/97;u1/98;u1/5;u1/99;o0:7;o1:9;o3:3");
         apart.setDistricts(4);
-        read(apart, "DABC");
+        apart.read("DABC");
         float due = 0f + 16f * 98f / 81f;
         due = due + 0f;
         due = due + 16f * 99f / 9f;
         due = due + 16f * 97f / 49f;
         Check.same("18: four", due / 4f, apart.meanCompactness());
-        read(apart, "ABCD");
+        apart.read("ABCD");
         due = 16f * 97f / 49f;
         due = due + 16f * 98f / 81f;
         due = due + 0f;
         due = due + 16f * 99f / 9f;
         Check.same("18: another order", due / 4f, apart.meanCompactness());
-        DistrictPlanner zero = mapped("u1/1;u1/1");
-        read(zero, "AB");
+        Planner zero = mapped("u1/1;u1/1");
+        zero.read("AB");
         Check.same("18: perimeter 0", 0f, zero.meanCompactness());
     }
 
     private static void improve() {
-        DistrictPlanner planner = mapped(PATH6);
+        Planner planner = mapped(PATH6);
         Check.fails("19: no plan", STATE, () -> planner.improve(0));
         Check.fails("19: no measure before no plan", ARGUMENT, () -> planner.improve(4));
         planner.setTolerance(99);
-        read(planner, "AAAAAB");
+        planner.read("AAAAAB");
         failsUnchanged("19: measure 4", ARGUMENT, planner, () -> planner.improve(4));
         failsUnchanged("19: measure -1", ARGUMENT, planner, () -> planner.improve(-1));
         Check.same("19: two steps", 2, planner.improve(3));
-        Check.same("19: plan", "AAABBB", plan(planner));
+        Check.same("19: plan", "AAABBB", planner.plan());
         Check.same("19: no step", 0, planner.improve(3));
         Check.same("19: one change each", 4, planner.undo());
         Check.same("19: one change each", 3, planner.undo());
-        Check.same("19: plan", "AAAAAB", plan(planner));
+        Check.same("19: plan", "AAAAAB", planner.plan());
         Check.same("19: by compactness", 2, planner.improve(0));
-        Check.same("19: plan", "AAABBB", plan(planner));
-        DistrictPlanner ring = ring("AAAB");
+        Check.same("19: plan", "AAABBB", planner.plan());
+        Planner ring = ring("AAAB");
         Check.same("19: the first of the best moves", 1, ring.improve(3));
-        Check.same("19: plan", "ABAB", plan(ring));
+        Check.same("19: plan", "ABAB", ring.plan());
         // The swaps of 0 and 3 and of 1 and 2 are equally good then, the first one is done.
         Check.same("19: split communities", 1, ring.improve(2));
-        Check.same("19: plan", "BBAA", plan(ring));
-        DistrictPlanner all = complete("u1/1;u2/1;u3/1;u4/1");
+        Check.same("19: plan", "BBAA", ring.plan());
+        Planner all = complete("u1/1;u2/1;u3/1;u4/1");
         all.setTolerance(99);
-        read(all, "AABB");
+        all.read("AABB");
         Check.same("19: the first of the best swaps", 1, all.improve(3));
-        Check.same("19: plan", "BAAB", plan(all));
-        DistrictPlanner worse = mapped("u1/1;u1/1;u1/1;b0-1:1;b1-2:1");
+        Check.same("19: plan", "BAAB", all.plan());
+        Planner worse = mapped("u1/1;u1/1;u1/1;b0-1:1;b1-2:1");
         worse.setTolerance(99);
-        read(worse, "AAB");
+        worse.read("AAB");
         Check.same("19: no step to an equal plan", 0, worse.improve(3));
-        Check.same("19: plan", "AAB", plan(worse));
-        DistrictPlanner cut = mapped("u1/1;u1/1;u1/1;b0-1:1;b1-2:5");
+        Check.same("19: plan", "AAB", worse.plan());
+        Planner cut = mapped("u1/1;u1/1;u1/1;b0-1:1;b1-2:5");
         cut.setTolerance(99);
-        read(cut, "AAB");
+        cut.read("AAB");
         Check.same("19: by cut length", 1, cut.improve(1));
-        Check.same("19: plan", "ABB", plan(cut));
-    }
-
-    /** A map that was searched for: by compactness, 22 steps lead from its plan to the last one. */
-    private static void improveLong() {
-        String[] units = {"20/76", "5/31", "94/23", "33/68", "12/41", "5/16", "12/58", "52/57", "87/67", "2/43",
-            "8/8", "53/24"};
-        String outer = "853720959140";
-        // In row u the lengths of the borders with the units below u.
-        String[] lengths = {"", "0", "30", "439", "0603", "65831", "065294", "7402370", "10018750", "208669675",
-            "1509381605", "15086000707"};
-        DistrictPlanner planner = empty();
-        for (int u = 0; u < units.length; u++) {
-            extend(planner, "u" + units[u] + ";o" + u + ":" + outer.charAt(u));
-            for (int v = 0; v < u; v++) {
-                if (lengths[u].charAt(v) != '0') {
-                    extend(planner, "b" + u + "-" + v + ":" + lengths[u].charAt(v));
-                }
-            }
-        }
-        planner.setDistricts(3);
-        planner.setTolerance(99);
-        Check.same("19: a long way", 0, read(planner, "BAACBCACABAB"));
-        Check.same("19: at most twenty steps", 20, planner.improve(0));
-        Check.same("19: the rest of the way", 2, planner.improve(0));
-        Check.same("19: the end of the way", 0, planner.improve(0));
-        planner.undo();
-        planner.undo();
-        planner.undo();
-        Check.same("19: undone at once", "BAACBCACABAB", plan(planner));
-    }
-
-    private static DistrictPlanner complete(String units) {
-        DistrictPlanner planner = mapped(units);
-        for (int u = 0; u < planner.count(0); u++) {
-            for (int v = 0; v < u; v++) {
-                extend(planner, "b" + u + "-" + v + ":1");
-            }
-        }
-        return planner;
+        Check.same("19: plan", "ABB", cut.plan());
     }
 
     private static void possible() {
-        DistrictPlanner planner = mapped(PATH6);
+        Planner planner = mapped(PATH6);
         failsUnchanged("20: no plan", STATE, planner, () -> planner.possible(true));
         failsUnchanged("20: no plan", STATE, planner, () -> planner.possible(false));
-        read(planner, "AAABBB");
+        planner.read("AAABBB");
         Check.same("20: moves", 0, planner.possible(false));
         planner.setTolerance(99);
-        read(planner, "AAABBB");
+        planner.read("AAABBB");
         Check.same("20: moves", 2, planner.possible(false));
         Check.same("20: swaps", 0, planner.possible(true));
-        DistrictPlanner all = complete("u1/1;u2/1;u3/1;u4/1");
+        Planner all = complete("u1/1;u2/1;u3/1;u4/1");
         all.setTolerance(99);
-        read(all, "AABB");
-        String before = look(all);
+        all.read("AABB");
+        String before = all.state();
         Check.same("20: moves", 4, all.possible(false));
         Check.same("20: swaps", 4, all.possible(true));
-        Check.same("20: nothing is changed", before, look(all));
+        Check.same("20: nothing is changed", before, all.state());
         all.setTolerance(40);
-        read(all, "AABB");
+        all.read("AABB");
         Check.same("20: moves", 2, all.possible(false));
         Check.same("20: swaps", 4, all.possible(true));
     }
 
     private static void plans() {
-        DistrictPlanner planner = empty();
+        Planner planner = empty();
         failsUnchanged("21: no units", STATE, planner, planner::plans);
-        extend(planner, PATH6);
+        planner.extend(PATH6);
         Check.same("21: balanced", 1, planner.plans());
         planner.setTolerance(99);
         Check.same("21: behind setTolerance", 5, planner.plans());
@@ -822,15 +678,15 @@ public final class PromiseTest {
         Check.same("21: behind undo", 5, planner.plans());
         planner.restoreSnapshot();
         Check.same("21: behind restoreSnapshot", 7, planner.plans());
-        extend(planner, "b0-5:1");
+        planner.extend("b0-5:1");
         Check.same("21: behind extend", 2 + 6 * 2, planner.plans());
         planner.clearMap();
         Check.fails("21: behind clearMap", STATE, planner::plans);
-        extend(planner, "u1/1;u1/1");
+        planner.extend("u1/1;u1/1");
         Check.same("21: more districts than units", 0, planner.plans());
         Check.same("21: one unit", 0, mapped("u1/1").plans());
         Check.same("22: one unit", 0, mapped("u1/1").counted());
-        DistrictPlanner nine = complete("u1/1;u1/1;u1/1;u1/1;u1/1;u1/1;u1/1;u1/1;u1/1");
+        Planner nine = complete("u1/1;u1/1;u1/1;u1/1;u1/1;u1/1;u1/1;u1/1;u1/1");
         nine.setDistricts(4);
         nine.setTolerance(99);
         Check.same("21: nine units", 6930, nine.plans());
@@ -839,18 +695,18 @@ public final class PromiseTest {
                 "" + (char) ('A' + nine.planned(6929, 0)) + (char) ('A' + nine.planned(6929, 1))
                 + (char) ('A' + nine.planned(6929, 2)) + (char) ('A' + nine.planned(6929, 3)));
         Check.fails("23: behind the last plan", ELEMENT, () -> nine.planned(6930, 0));
-        extend(nine, "u1/1");
+        nine.extend("u1/1");
         failsUnchanged("21: ten units", STATE, nine, nine::plans);
-        DistrictPlanner cores = mapped("u1/1@1!;u1/1;u1/1;u1/1@1!;b0-1:1;b1-2:1;b2-3:1;b3-0:1");
+        Planner cores = mapped("u1/1@1!;u1/1;u1/1;u1/1@1!;b0-1:1;b1-2:1;b2-3:1;b3-0:1");
         cores.setTolerance(99);
         Check.same("21: cores", 3, cores.plans());
         Check.same("22: cores", 3, cores.counted());
     }
 
     private static void counted() {
-        DistrictPlanner planner = empty();
+        Planner planner = empty();
         failsUnchanged("22: no units", STATE, planner, planner::counted);
-        extend(planner, PATH6);
+        planner.extend(PATH6);
         Check.same("22: balanced", 1, planner.counted());
         planner.setTolerance(99);
         Check.same("22: behind setTolerance", 5, planner.counted());
@@ -860,21 +716,21 @@ public final class PromiseTest {
         Check.same("22: behind undo", 5, planner.counted());
         planner.setDistricts(4);
         Check.same("22: four districts", planner.plans(), planner.counted());
-        extend(planner, "b0-5:1;b1-4:2;u3/1;u2/2;b6-7:1;b6-1:1");
+        planner.extend("b0-5:1;b1-4:2;u3/1;u2/2;b6-7:1;b6-1:1");
         Check.same("22: behind extend", planner.plans(), planner.counted());
         planner.clearMap();
-        extend(planner, "u1/1;u1/1");
+        planner.extend("u1/1;u1/1");
         Check.same("22: more districts than units", 0, planner.counted());
-        DistrictPlanner ten = mapped(PATH6 + ";u1/1;u1/1;u1/1");
+        Planner ten = mapped(PATH6 + ";u1/1;u1/1;u1/1");
         Check.same("22: nine units", 0, ten.counted());
-        extend(ten, "u1/1");
+        ten.extend("u1/1");
         failsUnchanged("22: ten units", STATE, ten, ten::counted);
     }
 
     private static void planned() {
-        DistrictPlanner planner = empty();
+        Planner planner = empty();
         Check.fails("23: no units", STATE, () -> planner.planned(0, 0));
-        extend(planner, PATH6);
+        planner.extend(PATH6);
         planner.setTolerance(99);
         for (int number = 0; number < 5; number++) {
             for (int u = 0; u < 6; u++) {
@@ -885,9 +741,9 @@ public final class PromiseTest {
         failsUnchanged("23: unit -1", INDEX, planner, () -> planner.planned(99, -1));
         failsUnchanged("23: plan 5", ELEMENT, planner, () -> planner.planned(5, 0));
         failsUnchanged("23: plan -1", ELEMENT, planner, () -> planner.planned(-1, 0));
-        extend(planner, "u1/1;u1/1;u1/1;u1/1");
+        planner.extend("u1/1;u1/1;u1/1;u1/1");
         Check.fails("23: ten units", STATE, () -> planner.planned(0, 99));
-        DistrictPlanner all = complete("u1/1;u1/1;u1/1;u1/1");
+        Planner all = complete("u1/1;u1/1;u1/1;u1/1");
         all.setDistricts(3);
         all.setTolerance(99);
         StringBuilder listed = new StringBuilder();
@@ -901,10 +757,10 @@ public final class PromiseTest {
     }
 
     private static void best() {
-        DistrictPlanner planner = empty();
+        Planner planner = empty();
         Check.fails("24: no units", STATE, () -> planner.best(0));
         Check.fails("24: no measure before no units", ARGUMENT, () -> planner.best(4));
-        extend(planner, PATH6);
+        planner.extend(PATH6);
         planner.setTolerance(99);
         failsUnchanged("24: measure 4", ARGUMENT, planner, () -> planner.best(4));
         failsUnchanged("24: measure -1", ARGUMENT, planner, () -> planner.best(-1));
@@ -912,55 +768,51 @@ public final class PromiseTest {
         for (int number = 0; number < 4; number++) {
             Check.same("24: best " + number, due[number], planner.best(number));
         }
-        extend(planner, "b1-2:2;b3-4:2;b2-3:2;b0-1:3");
+        planner.extend("b1-2:2;b3-4:2;b2-3:2;b0-1:3");
         Check.same("24: the shortest cut", 0, planner.best(1));
-        extend(planner, "b4-5:2;b3-4:1");
+        planner.extend("b4-5:2;b3-4:1");
         Check.same("24: the shortest cut", 1, planner.best(1));
         planner.setDistricts(4);
         planner.clearMap();
-        extend(planner, "u1/1;u1/1;u1/1");
+        planner.extend("u1/1;u1/1;u1/1");
         failsUnchanged("24: no plans", ELEMENT, planner, () -> planner.best(2));
-        DistrictPlanner cores = mapped("u1/1;u1/1@1;u1/1@1;u1/1@2;u1/1@2;b0-1:1;b1-2:1;b2-3:1;b3-4:1");
+        Planner cores = mapped("u1/1;u1/1@1;u1/1@1;u1/1@2;u1/1@2;b0-1:1;b1-2:1;b2-3:1;b3-4:1");
         cores.setTolerance(99);
         Check.same("24: the fewest split communities", 1, cores.best(2));
     }
 
     private static void choose() {
-        DistrictPlanner planner = empty();
+        Planner planner = empty();
         Check.fails("25: no units", STATE, () -> planner.choose(0));
-        extend(planner, PATH6);
+        planner.extend(PATH6);
         planner.setTolerance(99);
         failsUnchanged("25: plan -1", ELEMENT, planner, () -> planner.choose(-1));
         failsUnchanged("25: plan 5", ELEMENT, planner, () -> planner.choose(5));
         Check.same("25: a district at all", 6, planner.choose(2));
-        Check.same("25: plan", "AAABBB", plan(planner));
+        Check.same("25: plan", "AAABBB", planner.plan());
         Check.same("25: other districts", 1, planner.choose(1));
-        Check.same("25: plan", "AAAABB", plan(planner));
+        Check.same("25: plan", "AAAABB", planner.plan());
         Check.same("25: the same plan", 0, planner.choose(1));
-        read(planner, "BBBBAA");
+        planner.read("BBBBAA");
         Check.same("25: all others", 6, planner.choose(1));
         Check.same("25: undo", 6, planner.undo());
-        Check.same("25: undo", "BBBBAA", plan(planner));
+        Check.same("25: undo", "BBBBAA", planner.plan());
         planner.undo();
         Check.same("25: the same plan is a change", 4, planner.undo());
         planner.undo();
         planner.undo();
         Check.same("25: no plan", 0, planner.count(6));
         failsUnchanged("25: plan 5", ELEMENT, planner, () -> planner.choose(5));
-        extend(planner, "u1/1;u1/1;u1/1;u1/1");
+        planner.extend("u1/1;u1/1;u1/1;u1/1");
         Check.fails("25: ten units", STATE, () -> planner.choose(0));
     }
 
-    private static int asBits(float number) {
-        return Float.floatToIntBits(number);
-    }
-
     private static void store() {
-        DistrictPlanner planner = mapped(RING);
+        Planner planner = mapped(RING);
         Check.fails("26: no plan", STATE, () -> planner.store(0, true));
         Check.fails("26: no row before no plan", INDEX, () -> planner.store(3, true));
         planner.setTolerance(99);
-        read(planner, "AAAB");
+        planner.read("AAAB");
         failsUnchanged("26: row 3", INDEX, planner, () -> planner.store(3, false));
         failsUnchanged("26: row -1", INDEX, planner, () -> planner.store(-1, true));
         Check.same("26: exact", 2, planner.store(0, true));
@@ -969,12 +821,13 @@ public final class PromiseTest {
         Check.same("26: exact", asBits(5f), planner.bits(0, 1));
         Check.same("26: floats", asBits(160f / 64f), planner.bits(2, 0));
         Check.same("26: floats", asBits(32f / 25f), planner.bits(2, 1));
-        Check.same("26: no change", 3, undoable(planner));
+        Check.same("26: no change", 3, planner.undoable());
+        planner.clearMap();
         Check.same("26: rows stay", asBits(15f), planner.bits(0, 0));
-        extend(planner, "u7/1;u8/1;u9/1");
+        planner.extend("u7/1;u8/1;u9/1");
         planner.setDistricts(3);
         planner.setTolerance(50);
-        read(planner, "ABC");
+        planner.read("ABC");
         Check.same("26: a new row", 3, planner.store(2, true));
         Check.same("26: a new row", asBits(9f), planner.bits(2, 2));
         Check.same("26: a new row", 3, planner.store(0, false));
@@ -983,7 +836,7 @@ public final class PromiseTest {
     }
 
     private static void copyRow() {
-        DistrictPlanner planner = ring("AAAB");
+        Planner planner = ring("AAAB");
         planner.store(0, true);
         planner.store(1, false);
         failsUnchanged("27: row 3", ARGUMENT, planner, () -> planner.copyRow(0, 3, 0));
@@ -995,15 +848,15 @@ public final class PromiseTest {
         failsUnchanged("27: kinds before count", UNSUPPORTED, planner, () -> planner.copyRow(1, 0, 9));
         failsUnchanged("27: count -1", INDEX, planner, () -> planner.copyRow(0, 0, -1));
         failsUnchanged("27: count 3", INDEX, planner, () -> planner.copyRow(0, 0, 3));
-        String before = look(planner);
+        String before = planner.state();
         Check.same("27: the same row", 20, planner.copyRow(0, 0, 2));
         Check.same("27: without the fractions", 3, planner.copyRow(1, 1, 2));
-        Check.same("27: nothing is changed", before, look(planner));
+        Check.same("27: nothing is changed", before, planner.state());
         planner.clearMap();
-        extend(planner, "u7/1;u8/1;u9/1;o0:3;o1:5;o2:9");
+        planner.extend("u7/1;u8/1;u9/1;o0:3;o1:5;o2:9");
         planner.setDistricts(3);
         planner.setTolerance(50);
-        read(planner, "ABC");
+        planner.read("ABC");
         planner.store(2, true);
         Check.same("27: two of three", 15 + 5 + 9, planner.copyRow(0, 2, 2));
         Check.same("27: element 1", asBits(5f), planner.bits(2, 1));
@@ -1022,7 +875,7 @@ public final class PromiseTest {
     }
 
     private static void bits() {
-        DistrictPlanner planner = ring("AAAB");
+        Planner planner = ring("AAAB");
         Check.fails("28: missing", ELEMENT, () -> planner.bits(0, 0));
         planner.store(0, false);
         failsUnchanged("28: row 3", INDEX, planner, () -> planner.bits(3, 0));
@@ -1031,9 +884,9 @@ public final class PromiseTest {
         failsUnchanged("28: element -1", ELEMENT, planner, () -> planner.bits(0, -1));
         failsUnchanged("28: missing", ELEMENT, planner, () -> planner.bits(1, 0));
         for (int people = 1; people < 100; people++) {
-            DistrictPlanner pair = mapped("u" + people + "/" + (100 - people) + ";u" + people + "/" + people
+            Planner pair = mapped("u" + people + "/" + (100 - people) + ";u" + people + "/" + people
                     + ";o0:" + people % 10 + ";b0-1:" + (people % 9 + 1));
-            read(pair, "AB");
+            pair.read("AB");
             pair.store(1, true);
             pair.store(2, false);
             int perimeter = people % 10 + people % 9 + 1;
@@ -1043,7 +896,7 @@ public final class PromiseTest {
                     pair.bits(2, 0));
             Check.same("28: rough " + people, asBits(16f * people / (inner * inner)), pair.bits(2, 1));
         }
-        DistrictPlanner least = leastCompact();
+        Planner least = leastCompact();
         least.store(0, false);
         Check.same("28: the least", asBits(16f * 6f / (378f * 378f)), least.bits(0, 0));
         Check.same("28: the greatest of this plan", asBits(16f * 594f / (324f * 324f)), least.bits(0, 1));
@@ -1051,23 +904,10 @@ public final class PromiseTest {
         Check.same("28: whole", asBits(594f), least.bits(0, 0));
     }
 
-    /** Six units against six, with the longest borders and outer lengths. */
-    private static DistrictPlanner leastCompact() {
-        DistrictPlanner planner = empty();
-        for (int u = 0; u < 12; u++) {
-            extend(planner, "u99/" + (u < 6 ? "1" : "99") + ";o" + u + ":" + (u < 6 ? "9" : "0"));
-            for (int v = 0; v < u; v++) {
-                extend(planner, "b" + u + "-" + v + ":9");
-            }
-        }
-        Check.same("28: plan", 0, read(planner, "aaaaaabbbbbb"));
-        return planner;
-    }
-
     private static void undo() {
-        DistrictPlanner planner = empty();
+        Planner planner = empty();
         failsUnchanged("29: none", STATE, planner, planner::undo);
-        extend(planner, RING);
+        planner.extend(RING);
         for (int tolerance = 90; tolerance < 99; tolerance++) {
             planner.setTolerance(tolerance);
         }
@@ -1077,14 +917,14 @@ public final class PromiseTest {
         }
         failsUnchanged("29: only eight", STATE, planner, planner::undo);
         planner.setTolerance(99);
-        read(planner, "AABB");
+        planner.read("AABB");
         planner.swap(1, 2);
         planner.move(2, 1);
         planner.improve(3);
         planner.choose(0);
         planner.setDistricts(3);
         planner.clearMap();
-        type(planner, "xyz");
+        planner.type("xyz");
         Check.same("29: undo clearMap", 7, planner.undo());
         Check.same("29: map", 4, planner.count(0));
         Check.same("29: border", 3, planner.border(1, 3));
@@ -1093,7 +933,7 @@ public final class PromiseTest {
         String[] plans = {"AAAB", improved(), "ABBB", "ABAB", "AABB", "----"};
         for (int i = 0; i < plans.length; i++) {
             Check.same("29: undo", 6 - i, planner.undo());
-            Check.same("29: plan", plans[i], plan(planner));
+            Check.same("29: plan", plans[i], planner.plan());
         }
         Check.same("29: input stays", 3, planner.count(9));
         Check.same("29: the last one", 0, planner.undo());
@@ -1103,35 +943,35 @@ public final class PromiseTest {
     }
 
     private static String improved() {
-        DistrictPlanner planner = ring("ABBB");
+        Planner planner = ring("ABBB");
         planner.improve(3);
-        return plan(planner);
+        return planner.plan();
     }
 
     private static void snapshots() {
-        DistrictPlanner planner = empty();
+        Planner planner = empty();
         failsUnchanged("31: none", STATE, planner, planner::restoreSnapshot);
         Check.same("30: empty", 0, planner.saveSnapshot());
-        extend(planner, RING);
+        planner.extend(RING);
         planner.setTolerance(99);
         planner.setDistricts(2);
-        read(planner, "AABB");
+        planner.read("AABB");
         Check.same("31: empty", 0, planner.restoreSnapshot());
         Check.same("31: tolerance", 10, planner.count(5));
         Check.same("31: no plan", 0, planner.count(6));
         Check.fails("31: no undo", STATE, planner::undo);
-        DistrictPlanner ring = ring("AABB");
+        Planner ring = ring("AABB");
         Check.same("30: saveSnapshot", 4, ring.saveSnapshot());
         ring.swap(1, 2);
         ring.store(0, true);
-        type(ring, "uvw");
+        ring.type("uvw");
         Check.same("30: it is no change", 3, ring.undo());
         ring.setTolerance(3);
         ring.setDistricts(4);
         ring.clearMap();
         for (int round = 0; round < 2; round++) {
             Check.same("31: restoreSnapshot", 4, ring.restoreSnapshot());
-            Check.same("31: plan", "AABB", plan(ring));
+            Check.same("31: plan", "AABB", ring.plan());
             Check.same("31: counts", "99 2 4 3", ring.count(5) + " " + ring.count(4) + " " + ring.count(1)
                     + " " + ring.border(1, 3));
             Check.same("31: cores", 1, ring.unit(0, 3));
@@ -1142,18 +982,18 @@ public final class PromiseTest {
         }
         Check.same("31: a change afterwards", 0, ring.undo());
         ring.extend();
-        extend(ring, "u1/1");
+        ring.extend("u1/1");
         Check.same("30: another one", 5, ring.saveSnapshot());
         ring.clearMap();
         Check.same("31: another one", 5, ring.restoreSnapshot());
     }
 
     private static void letter() {
-        DistrictPlanner planner = mapped("u1/1;u1/1;u1/1;u1/1");
+        Planner planner = mapped("u1/1;u1/1;u1/1;u1/1");
         Check.fails("32: no plan", STATE, () -> planner.letter(3));
         Check.fails("32: no unit before no plan", INDEX, () -> planner.letter(4));
         planner.setDistricts(4);
-        read(planner, "bdca");
+        planner.read("bdca");
         Check.same("32: letter", 'B', planner.letter(0));
         Check.same("32: letter", 'D', planner.letter(1));
         Check.same("32: letter", 'C', planner.letter(2));

@@ -6,13 +6,12 @@ import java.lang.reflect.Modifier;
 import java.nio.charset.StandardCharsets;
 import java.nio.file.Files;
 import java.nio.file.Path;
-import java.util.HashSet;
 import java.util.Set;
 import java.util.TreeSet;
 import java.util.regex.Matcher;
 import java.util.regex.Pattern;
 
-/** The face of the document, and those rules of LANGUAGE.md that can be seen without reading. */
+/** The public face: that of the document and no more. */
 public final class FaceTest {
     private static final String[] FACE = {
         "int feed(char) IllegalStateException",
@@ -50,15 +49,11 @@ public final class FaceTest {
         "int restoreSnapshot() IllegalStateException",
         "char letter(int) IndexOutOfBoundsException,IllegalStateException",
     };
-    private static final String[] RULED_OUT = {
-        "->", "::", "catch", "finally", "synchronized", "assert", "instanceof", "Exact(", "double", "protected",
-        "Random", "System.nano", "System.current", "Thread", "native", "volatile", "@", "floatToIntBits",
-    };
+    private static final Path DOCUMENT = Path.of("../shared/DOC.md");
 
     public static void main(String[] args) throws IOException {
         face();
-        classesInside();
-        source();
+        faceOfDocument();
         Check.end("FaceTest");
     }
 
@@ -91,69 +86,22 @@ public final class FaceTest {
         }
     }
 
-    private static void classesInside() {
-        Set<String> publicNames = new HashSet<>();
-        for (String line : FACE) {
-            publicNames.add(line.substring(line.indexOf(' ') + 1, line.indexOf('(')));
+    /** The lines of the document's face, with the names of the parameters taken away. */
+    private static void faceOfDocument() throws IOException {
+        if (!Files.exists(DOCUMENT)) {
+            System.out.println("no " + DOCUMENT + ": its face is not looked up");
+            return;
         }
-        Class<?>[] inside = DistrictPlanner.class.getDeclaredClasses();
-        Check.same("at most twelve classes", true, inside.length < 12);
-        countFields(DistrictPlanner.class);
-        for (Class<?> type : inside) {
-            int modifiers = type.getModifiers();
-            Check.same("static " + type, true, Modifier.isStatic(modifiers));
-            Check.same("hidden " + type, false, Modifier.isPublic(modifiers) || Modifier.isProtected(modifiers));
-            for (Method method : type.getDeclaredMethods()) {
-                Check.same("no public name: " + method, false, publicNames.contains(method.getName()));
-                Check.same("parameters of " + method, true, method.getParameterCount() <= 7);
-            }
-            countFields(type);
+        String text = Files.readString(DOCUMENT, StandardCharsets.UTF_8);
+        Matcher face = Pattern.compile("(?s)```java\n.*?\n}\n```").matcher(text);
+        Check.same("the document has a face", true, face.find());
+        Set<String> lines = new TreeSet<>();
+        Matcher method = Pattern.compile("public (\\w+ \\w+\\([^)]*\\))(?: throws ([^;]*))?;").matcher(face.group());
+        while (method.find()) {
+            String head = method.group(1).replaceAll(" \\w+([,)])", "$1").replace(", ", ",");
+            String thrown = method.group(2) == null ? "" : " " + method.group(2).replace(", ", ",");
+            lines.add(head + thrown);
         }
-        for (Method method : DistrictPlanner.class.getDeclaredMethods()) {
-            boolean isHidden = Modifier.isPrivate(method.getModifiers());
-            Check.same("no public name: " + method, false, isHidden && publicNames.contains(method.getName()));
-        }
-    }
-
-    private static void countFields(Class<?> type) {
-        int fields = 0;
-        for (Field field : type.getDeclaredFields()) {
-            boolean isStatic = Modifier.isStatic(field.getModifiers());
-            fields += isStatic ? 0 : 1;
-            Check.same("final " + field, true, !isStatic || Modifier.isFinal(field.getModifiers()));
-        }
-        Check.same("fields of " + type, true, fields <= 20);
-    }
-
-    private static void source() throws IOException {
-        String code = Files.readString(Path.of("src/main/java/DistrictPlanner.java"), StandardCharsets.ISO_8859_1);
-        Check.same("signs from 1 to 127", true, code.chars().allMatch(c -> c > 0 && c < 128));
-        String bare = code.replaceAll("(?s)/\\*.*?\\*/", "").replaceAll("//.*", "").replaceAll("\"[^\"]*\"", "\"\"")
-                .replace("'@'", "''");
-        for (String word : RULED_OUT) {
-            Check.same("no " + word, false, bare.contains(word));
-        }
-        Set<String> imports = new TreeSet<>();
-        Matcher matcher = Pattern.compile("import ([^;]*);").matcher(bare);
-        while (matcher.find()) {
-            imports.add(matcher.group(1));
-        }
-        Check.same("imports", new TreeSet<>(Set.of("java.util.Arrays", "java.util.NoSuchElementException")), imports);
-        lengths(bare.split("\n"));
-    }
-
-    /** A method begins at a line that ends in '{' behind ')' or an exception, and ends at a brace of its indent. */
-    private static void lengths(String[] lines) {
-        Pattern head = Pattern.compile("^( {4}| {8})[^ }].*\\).*\\{$");
-        for (int i = 0; i < lines.length; i++) {
-            Matcher matcher = head.matcher(lines[i]);
-            if (matcher.matches()) {
-                int end = i;
-                while (end < lines.length && !lines[end].equals(matcher.group(1) + "}")) {
-                    end++;
-                }
-                Check.same("length of " + lines[i].trim(), true, end - i < 60);
-            }
-        }
+        Check.same("the face of the document", new TreeSet<>(Set.of(FACE)), lines);
     }
 }

@@ -1,6 +1,7 @@
 import java.util.Arrays;
 import java.util.NoSuchElementException;
 
+/** Plans districts on small maps. What its methods answer is promised in ../shared/DOC.md, in the order of this file. */
 public final class DistrictPlanner {
     private static final int MOST_UNITS = 12;
     private static final int MOST_LISTED_UNITS = 9;
@@ -1270,6 +1271,10 @@ public final class DistrictPlanner {
 
     /** Numbers of districts: whole ones or floats. */
     private static final class Row {
+        // A float keeps its exponent, where 127 stands for that of 1, above 23 bits of the fraction behind the point.
+        private static final int ONE_EXPONENT = 127;
+        private static final int FRACTION_BITS = 23;
+
         private final int[] whole = new int[MOST_DISTRICTS];
         private final float[] rough = new float[MOST_DISTRICTS];
         int size = 0;
@@ -1318,7 +1323,7 @@ public final class DistrictPlanner {
                 return 0;
             }
             float rest = number;
-            int exponent = 127;
+            int exponent = ONE_EXPONENT;
             for (int round = 0; round < 126 && rest >= 2; round++) {
                 rest = rest / 2;
                 exponent++;
@@ -1327,7 +1332,8 @@ public final class DistrictPlanner {
                 rest = rest * 2;
                 exponent--;
             }
-            return (exponent << 23) + (int) (rest * 8388608) - 8388608;
+            int fraction = (int) ((rest - 1) * (1 << FRACTION_BITS));
+            return (exponent << FRACTION_BITS) + fraction;
         }
     }
 
